@@ -258,7 +258,7 @@ public final class Quarterpowers {
         checkCell(one);
         checkCell(other);
         checkNear(one, other);
-        return Num.mostSteps(cells[one], cells[other]);
+        return Num.mostSteps(Num.qOf(cells[one]));
     }
 
     public boolean isWithin(int one, int other) throws IndexOutOfBoundsException, IllegalStateException {
@@ -351,7 +351,7 @@ public final class Quarterpowers {
         int there = Becoming.change(Becoming.LOGGED, Num.quarters(q));
         int forth = Becoming.change(Becoming.LESSENED, there);
         return forth != Num.NONE
-                && Kept.steps(Kept.digitsOf(forth), Kept.digitsOf(Num.quarters(q))) <= Num.MOST_FORTH;
+                && Kept.steps(Kept.digitsOf(forth), Kept.digitsOf(Num.quarters(q))) <= 2;
     }
 
     public boolean opposite(int q) throws IllegalArgumentException {
@@ -490,8 +490,9 @@ public final class Quarterpowers {
         return count;
     }
 
+    /** Of two NEAR ones: whether they are as near as section 3 tells. */
     private static boolean areWithin(int one, int other) {
-        return Kept.steps(Kept.digitsOf(one), Kept.digitsOf(other)) <= Num.mostSteps(one, other);
+        return Kept.steps(Kept.digitsOf(one), Kept.digitsOf(other)) <= Num.mostSteps(Num.qOf(one));
     }
 
     private static boolean liesBetween(int q) {
@@ -628,7 +629,6 @@ public final class Quarterpowers {
         static final int GREATEST_QUARTER = 160;
         static final int LEAST_BACK = -32;
         static final int GREATEST_BACK = -5;
-        static final int MOST_FORTH = 2;
 
         /** What of() tells of ENDLESS ABOVE; held as its q, though it has none. */
         private static final int Q_OF_ENDLESS = 1000;
@@ -705,11 +705,13 @@ public final class Quarterpowers {
             return kind == QUARTER || kind == BACK || kind == FORTH;
         }
 
-        /** Of two NEAR ones: how many STEPS section 3 lets between them. */
-        static int mostSteps(int one, int other) {
-            int q = qOf(one);
-            if (kindOf(one) == FORTH || kindOf(other) == FORTH || q >= -12) {
-                return MOST_FORTH;
+        /**
+         * How many STEPS section 3 lets between two NEAR ones of a q. No q has both a BACK and a
+         * FORTH, so that q alone tells which of them there is.
+         */
+        static int mostSteps(int q) {
+            if (q >= -12) {
+                return 2;
             }
             if (q >= -16) {
                 return 5;
@@ -907,6 +909,8 @@ public final class Quarterpowers {
         private static final long FRACTION = LEADING - 1;
         /** The EXPONENT of a number whose last FRACTION digit stands for 1. */
         private static final int EVEN_EXPONENT = 1075;
+        private static final int EXPONENT_OF_ONE = 1023;
+        /** Out of any int; a STEP just below 1 is 1 by it, one just above 1 is 1 by LEADING. */
         private static final long FAR = 1L << 53;
 
         static long digitsOf(int number) {
@@ -968,7 +972,7 @@ public final class Quarterpowers {
         }
 
         static int heightOf(long digits) {
-            return exponentOf(digits) - 1023;
+            return exponentOf(digits) - EXPONENT_OF_ONE;
         }
 
         static int firstDigits(long digits) {

@@ -1,3 +1,6 @@
+import java.lang.reflect.InvocationTargetException;
+import java.lang.reflect.Method;
+
 /** Counts what is not as due, and ends a test. */
 final class Check {
     private static final int MOST_PRINTED = 40;
@@ -44,6 +47,17 @@ final class Check {
             return call.answer();
         } catch (RuntimeException thrown) {
             return "throws." + thrown.getClass().getSimpleName();
+        }
+    }
+
+    /** The same of a method that is called by what the machine knows of it. */
+    static Object told(Method method, Object object, Object[] values) {
+        try {
+            return method.invoke(object, values);
+        } catch (InvocationTargetException thrown) {
+            return "throws." + thrown.getCause().getClass().getSimpleName();
+        } catch (IllegalAccessException thrown) {
+            throw new IllegalStateException(thrown);
         }
     }
 

@@ -1,4 +1,3 @@
-import java.lang.reflect.InvocationTargetException;
 import java.lang.reflect.Method;
 import java.lang.reflect.Modifier;
 import java.util.ArrayList;
@@ -26,7 +25,7 @@ public final class RunsTest {
         return (int) ((seed >>> 33) % bound);
     }
 
-    public static void main(String[] args) throws ReflectiveOperationException {
+    public static void main(String[] args) throws NoSuchMethodException {
         List<Method> face = face();
         for (int run = 0; run < RUNS; run++) {
             run(run, face);
@@ -51,7 +50,7 @@ public final class RunsTest {
         return all;
     }
 
-    private static void run(int run, List<Method> face) throws ReflectiveOperationException {
+    private static void run(int run, List<Method> face) throws NoSuchMethodException {
         Quarterpowers x = new Quarterpowers();
         Model model = new Model();
         int calls = 0;
@@ -132,17 +131,9 @@ public final class RunsTest {
     }
 
     private static void compare(String what, Method method, Quarterpowers x, Model model, Object[] values)
-            throws ReflectiveOperationException {
+            throws NoSuchMethodException {
         Method due = Model.class.getDeclaredMethod(method.getName(), method.getParameterTypes());
         due.setAccessible(true);
-        Check.same(what, told(method, x, values), told(due, model, values));
-    }
-
-    private static Object told(Method method, Object object, Object[] values) throws ReflectiveOperationException {
-        try {
-            return method.invoke(object, values);
-        } catch (InvocationTargetException thrown) {
-            return "throws." + thrown.getCause().getClass().getSimpleName();
-        }
+        Check.same(what, Check.told(method, x, values), Check.told(due, model, values));
     }
 }
